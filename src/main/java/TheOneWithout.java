@@ -1070,6 +1070,7 @@ public final class TheOneWithout {
         private final int[] likes = new int[SORTS];
         private final int[] parts = new int[MOST_CUPS * KINDS * SORTS];
         private int questionCount = 0;
+        private int mostParts = 1;
 
         Questions(Tray tray, Worlds worlds) {
             this.tray = tray;
@@ -1211,6 +1212,7 @@ public final class TheOneWithout {
             int asked = (kinds >> SIP & 1) == 1 ? SIP_ALONE : kinds;
             Arrays.fill(parts, 0);
             questionCount = 0;
+            mostParts = 1;
             for (int kind = 0; kind < KINDS; kind++) {
                 if ((asked >> kind & 1) == 1) {
                     findLikes(1 << kind);
@@ -1223,13 +1225,16 @@ public final class TheOneWithout {
 
         private void findPartsAt(int place) {
             int first = questionCount * SORTS;
+            int seen = 0;
             for (int i = 0; i < worlds.possibleCount; i++) {
                 int sort = Worlds.sortAt(worlds.possibleOf(i), place);
                 int part = sort < likes.length ? first + likes[sort] : NONE;
                 if (part >= 0 && part < parts.length) {
                     parts[part] |= 1 << i;
+                    seen |= 1 << likes[sort];
                 }
             }
+            mostParts = Math.max(mostParts, Integer.bitCount(seen));
             questionCount++;
         }
 
@@ -1238,7 +1243,7 @@ public final class TheOneWithout {
             if ((left & left - 1) == 0) {
                 return true;
             }
-            if (steps <= 0) {
+            if (Integer.bitCount(left) > mostTold(steps)) {
                 return false;
             }
             for (int question = 0; question < questionCount; question++) {
@@ -1247,6 +1252,15 @@ public final class TheOneWithout {
                 }
             }
             return false;
+        }
+
+        /** How many worlds so many steps can tell at most: 1 of no step. */
+        private int mostTold(int steps) {
+            int most = 1;
+            for (int i = 0; i < steps && i < MOST_STEPS; i++) {
+                most *= mostParts;
+            }
+            return most;
         }
 
         private boolean canTellBy(int question, int left, int steps) {

@@ -1,0 +1,145 @@
+/** Promises 26 to 29: the next sign, the fewest, places that tell, marks. */
+public final class QuestionsTest {
+    private static final Due DUE = new Due();
+
+    public static void main(String[] args) {
+        next();
+        nextRefused();
+        fewest();
+        fewestAhead();
+        fewestRefused();
+        apart();
+        marks();
+        DUE.end();
+    }
+
+    private static void next() {
+        DUE.promise(26);
+        TheOneWithout x = Due.tray("cups 3;law 2;pour 0 1 2;sort 1 4 0 1;sort 2 4 0 2");
+        DUE.is("SHADE leaves 4 at each place, so the first", x.next(1), 0);
+        DUE.is("WEIGHT leaves all", x.next(2), 1);
+        DUE.is("HEAT leaves 2", x.next(4), 2);
+        DUE.is("SHADE or HEAT", x.next(5), 2);
+        DUE.is("HEAT or SORT", x.next(12), 2);
+        DUE.is("SORT", x.next(8), 3);
+        DUE.is("any", x.next(15), 2);
+        Due.stair(x, "sign 0 3 0");
+        DUE.is("place 0 tells no more", x.next(8), 13);
+        DUE.is("HEAT at 1", x.next(15), 12);
+        DUE.is("SHADE tells no more: the first", x.next(1), 0);
+        DUE.is("SHADE or WEIGHT, none tells", x.next(3), 0);
+        DUE.is("WEIGHT alone", x.next(2), 1);
+        x = Due.tray("cups 4;law 1;pour 0 0 0 1;sign 0 3 0");
+        DUE.is("of three ways", x.next(8), 13);
+        DUE.is("one world", new TheOneWithout().next(8), 3);
+        x = Due.tray("cups 4;law 2;pour 0 0 1 2;sort 2 1 0 0;sign 1 3 0");
+        DUE.is("the least worst, not the first", x.next(1), 0);
+        x = Due.tray("cups 4;law 2;pour 0 0 1 2;sort 2 1 0 0;sign 0 3 0");
+        DUE.is("the least worst stands behind", x.next(1), 10);
+        DUE.is("the least worst stands behind", x.next(8), 13);
+    }
+
+    private static void nextRefused() {
+        TheOneWithout x = Due.tray("cups 3;law 2;pour 0 1 2;sign 0 3 1");
+        DUE.refused(x, "next(0)", x.next(0), -2, 1);
+        DUE.refused(x, "next(16)", x.next(16), -2, 2);
+        DUE.refused(x, "next(-1)", x.next(-1), -2, 3);
+        x.law(0);
+        DUE.refused(x, "none is possible", x.next(1), -5, 1);
+        DUE.refused(x, "BAD is ahead of STUCK", x.next(0), -2, 4);
+    }
+
+    private static void fewest() {
+        DUE.promise(27);
+        DUE.is("it is known", new TheOneWithout().fewest(1), 0);
+        TheOneWithout x = Due.tray("cups 4;law 2;pour 0 1 2 3;sort 1 0 1 0;sort 2 1 0 0;"
+                + "sort 3 1 1 5");
+        DUE.is("24 worlds by sips", x.fewest(8), 3);
+        DUE.is("by all", x.fewest(15), 3);
+        DUE.is("by one shade", x.fewest(1), -1);
+        DUE.is("by shade and weight", x.fewest(3), -1);
+        Due.stair(x, "sign 0 3 0");
+        DUE.is("6 worlds by sips", x.fewest(8), 2);
+        DUE.is("by shade and weight", x.fewest(3), 3);
+        DUE.is("HEAT tells but one", x.fewest(4), -1);
+        Due.stair(x, "sign 1 3 1");
+        DUE.is("two by one sip", x.fewest(8), 1);
+        DUE.is("two by heat", x.fewest(4), 1);
+        DUE.is("alike in shade", x.fewest(1), -1);
+        Due.stair(x, "sign 2 3 3");
+        DUE.is("it is known", x.fewest(1), 0);
+        DUE.is("five turned, one odd", Due.tray("law 1;pour 0 0 0 0 1").fewest(8), 4);
+        DUE.is("six turned, one odd", Due.tray("cups 6;law 1;pour 0 0 0 0 0 1").fewest(8), -1);
+    }
+
+    /** Two looks are enough only if the second hangs on what the first has shown. */
+    private static void fewestAhead() {
+        TheOneWithout x = Due.tray("cups 4;law 1;pour 0 1 2 3;sort 2 1 0 0;sort 3 1 0 0");
+        DUE.is("by shades", x.fewest(1), 2);
+        x = Due.tray("cups 6;law 1;pour 0 1 2 3 4 5;sort 1 0 0 1;sort 2 0 1 0;sort 3 1 1 1;"
+                + "sort 4 1 0 1;sort 5 1 1 0");
+        DUE.is("by sips", x.fewest(8), 1);
+        DUE.is("by shades", x.fewest(1), 3);
+    }
+
+    private static void fewestRefused() {
+        TheOneWithout x = Due.tray("cups 3;law 2;pour 0 1 2;sign 0 3 1");
+        DUE.refused(x, "fewest(0)", x.fewest(0), -2, 1);
+        DUE.refused(x, "fewest(16)", x.fewest(16), -2, 2);
+        DUE.refused(x, "fewest(-1)", x.fewest(-1), -2, 3);
+        DUE.is("NONE", x.fewest(1), -1);
+        DUE.is("NONE isn't refused", x.status(12) + x.status(15), 3);
+        x.law(0);
+        DUE.refused(x, "none is possible", x.fewest(8), -5, 1);
+        x = Due.tray("cups 4;law 2;pour 0 1 2 3");
+        DUE.is("24", x.fewest(8), 3);
+        x = Due.tray("cups 5;law 2;pour 0 0 0 1 2");
+        DUE.is("20", x.fewest(8), 4);
+        x = Due.tray("cups 5;law 2;pour 0 0 1 1 2");
+        DUE.refused(x, "30", x.fewest(8), -5, 1);
+        DUE.refused(x, "BAD is ahead of STUCK", x.fewest(0), -2, 1);
+    }
+
+    private static void apart() {
+        DUE.promise(28);
+        DUE.is("one world", new TheOneWithout().apart(), 0);
+        TheOneWithout x = Due.tray("cups 4;law 2;pour 0 1 2 3");
+        DUE.is("three of four", x.apart(), 7);
+        Due.stair(x, "sign 1 3 2");
+        DUE.is("two, and not the known", x.apart(), 5);
+        DUE.is("turned, all unlike", Due.tray("cups 6;law 1;pour 0 1 2 3 4 5").apart(), 1);
+        DUE.is("turned, one odd", Due.tray("cups 6;law 1;pour 0 0 0 0 0 1").apart(), 31);
+        DUE.is("turned, two and two", Due.tray("cups 4;law 1;pour 0 0 1 1").apart(), 3);
+        // left are 1200, 0210 and 0120: places 0 and 1 together tell them, and so does 2 alone
+        x = Due.tray("cups 4;law 2;pour 0 0 1 2;sort 2 1 0 0;sort 0 0 1 0;sign 3 3 0;"
+                + "sign 0 0 0;sign 1 1 0");
+        DUE.is("worlds(1)", x.worlds(1), 3);
+        DUE.is("fewest, not least bits", x.apart(), 4);
+        x = Due.tray("cups 3;law 2;pour 0 1 2;sign 0 3 1");
+        x.law(0);
+        DUE.refused(x, "none is possible", x.apart(), -5, 1);
+    }
+
+    private static void marks() {
+        DUE.promise(29);
+        TheOneWithout x = Due.tray("cups 4;law 2;pour 0 1 2 3;sort 1 0 1 0;sort 2 1 0 0;"
+                + "sort 3 1 1 0");
+        int[] due = {24, 4, 4, 1, 24, 4, 4, 1, 1, 1, 1, 1, 1, 1, 1, 1};
+        for (int kinds = 0; kinds < 16; kinds++) {
+            DUE.is("marks(" + kinds + ")", x.marks(kinds), due[kinds]);
+        }
+        Due.stair(x, "sign 0 3 1");
+        DUE.is("possible or not", x.marks(0), 24);
+        x.law(0);
+        DUE.is("none is possible", x.marks(0), 1);
+        x.law(2);
+        Due.stair(x, "cups 4;pour 0 0 1 2;sort 1 0 0 0;sort 2 1 0 0");
+        DUE.is("the greatest", x.marks(1), 3);
+        DUE.is("two of one sort are no two worlds", x.marks(0), 12);
+        DUE.refused(x, "marks(16)", x.marks(16), -2, 1);
+        DUE.refused(x, "marks(-1)", x.marks(-1), -2, 2);
+        x = Due.tray("cups 6;law 2;pour 0 1 2 3 4 5");
+        DUE.is("all of 720", x.marks(7), 720);
+        DUE.is("each of 720", x.marks(8), 1);
+    }
+}
