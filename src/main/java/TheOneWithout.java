@@ -400,7 +400,8 @@ public final class TheOneWithout {
         // each look adds a sign, so there are never more looks than signs
         for (int looks = 0; looks <= MOST_SIGNS; looks++) {
             worlds.refresh();
-            int said = worlds.possibleCount == 1 ? NONE : tellers.sayingOf(teller);
+            // with one possible world, too, it says NONE
+            int said = tellers.sayingOf(teller);
             if (said == NONE) {
                 return looks;
             }
@@ -720,10 +721,13 @@ public final class TheOneWithout {
             int sign = i >= 0 && i < signs.length ? signs[i] : 0;
             int kind = sign / NUMBERS % KINDS;
             int number = sign % NUMBERS;
+            if (kind == SIP) {
+                return 1 << number;
+            }
             int bits = 0;
-            for (int sort = 0; sort < SORTS; sort++) {
-                if (numberOf(kind, sort) == number) {
-                    bits |= 1 << sort;
+            for (int at = kind; at < numbers.length; at += LOOKS) {
+                if (numbers[at] == number) {
+                    bits |= 1 << at / LOOKS;
                 }
             }
             return bits;
@@ -1243,7 +1247,7 @@ public final class TheOneWithout {
             if ((left & left - 1) == 0) {
                 return true;
             }
-            if (Integer.bitCount(left) > mostTold(steps)) {
+            if (steps <= 0 || Integer.bitCount(left) > mostTold(steps)) {
                 return false;
             }
             for (int question = 0; question < questionCount; question++) {
@@ -1254,7 +1258,7 @@ public final class TheOneWithout {
             return false;
         }
 
-        /** How many worlds so many steps can tell at most: 1 of no step. */
+        /** How many worlds so many steps can tell at most. */
         private int mostTold(int steps) {
             int most = 1;
             for (int i = 0; i < steps && i < MOST_STEPS; i++) {

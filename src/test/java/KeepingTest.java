@@ -37,6 +37,9 @@ public final class KeepingTest {
         DUE.is("split(1, 1, 0)", x.split(1, 1, 0), 1);
         DUE.is("mind(0, 1)", x.mind(0, 1), 6);
         DUE.is("best(NONE)", x.best(-1), 0);
+        Due.row(x, 6, 0, 1, 0, 2, 3);
+        DUE.is("all that guest 0 minds", x.handing(6, 2), 9);
+        x.show(6, -1);
         DUE.is("stands(0)", x.stands(0), 1);
         DUE.is("stands(1)", x.stands(1), 0);
         DUE.is("turned()", x.turned(), -1);

@@ -32,6 +32,7 @@ public final class QuestionsTest {
         x = Due.tray("cups 4;law 1;pour 0 0 0 1;sign 0 3 0");
         DUE.is("of three ways", x.next(8), 13);
         DUE.is("one world", new TheOneWithout().next(8), 3);
+        DUE.is("all of 720", Due.tray("cups 6;law 2;pour 0 1 2 3 4 5").next(1), 0);
         x = Due.tray("cups 4;law 2;pour 0 0 1 2;sort 2 1 0 0;sign 1 3 0");
         DUE.is("the least worst, not the first", x.next(1), 0);
         x = Due.tray("cups 4;law 2;pour 0 0 1 2;sort 2 1 0 0;sign 0 3 0");

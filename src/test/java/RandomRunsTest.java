@@ -112,7 +112,7 @@ public final class RandomRunsTest {
         call("cups", n);
         call("law", style == 0 ? below(3) : 2 - below(2));
         int unlike = 1 + below(6);
-        int numbers = 1 + below(4);
+        int numbers = below(6) == 0 ? 10 : 1 + below(4);
         for (int s = 0; s < 6; s++) {
             for (int k = 0; k < 3; k++) {
                 call("sort", s, k, below(numbers));

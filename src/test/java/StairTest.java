@@ -98,6 +98,9 @@ public final class StairTest {
         DUE.is("two digits", Due.stair(x, "law 02"), 1);
         DUE.is("status(1)", x.status(1), 2);
         DUE.is("words as long as can be", Due.stair(x, "cupss 2"), -20);
+        DUE.is("z is a letter", Due.stair(x, "lawz 1"), -20);
+        DUE.is("another first letter", Due.stair(x, "paw 1"), -20);
+        DUE.is("another last letter", Due.stair(x, "lax 1"), -20);
         DUE.is("words of blanks", Due.stair(x, "cu ps 2"), -20);
         DUE.is("shorter", Due.stair(x, "law 1;cup 2"), -26);
         DUE.is("numbers as long as can be", Due.stair(x, "pour 00"), -27);
@@ -177,7 +180,11 @@ public final class StairTest {
         DUE.is("worlds(1)", x.worlds(1), 1);
         DUE.is("world(0, 0)", x.world(0, 0), 2);
         DUE.is("mind(0, 2)", x.mind(0, 2), 0);
-        DUE.is("best(NONE)", x.best(-1), 0);
+        DUE.is("mind(0, 1)", x.mind(0, 1), 1);
+        x.row(0, 0, 3);
+        x.set(0, 1, 1);
+        x.set(0, 2, 2);
+        DUE.is("all that guest 0 minds", x.handing(0, 2), 9);
         DUE.is("SHADE", x.sort(1, 0, 9), 9);
         DUE.is("WEIGHT", x.sort(1, 1, 8), 8);
         DUE.is("HEAT", x.sort(1, 2, 7), 7);

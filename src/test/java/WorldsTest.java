@@ -149,6 +149,11 @@ public final class WorldsTest {
             DUE.is("split(3, " + kind + ", 0)", x.split(3, kind, 0), due[kind][0]);
             DUE.is("split(3, " + kind + ", 1)", x.split(3, kind, 1), due[kind][1]);
         }
+        Due.stair(x, "sort 1 9 1 0");
+        DUE.is("number 9, too", x.split(3, 0, 0), 3);
+        Due.stair(x, "sort 0 9 0 0");
+        DUE.is("number 9, too", x.split(3, 0, 1), 9);
+        Due.stair(x, "sort 1 5 1 0;sort 0 0 0 0");
         Due.stair(x, "sign 0 1 2");
         DUE.is("split(0, 1, 0)", x.split(0, 1, 0), 1);
         DUE.is("split(0, 1, 1)", x.split(0, 1, 1), 3);
