@@ -407,11 +407,10 @@ public final class TheOneWithout {
             }
             int place = said / 10;
             int kind = said % 10;
-            int number = tray.numberInTruth(place, kind);
-            if (tray.knows(place, kind, number)) {
+            if (tray.knows(place, kind)) {
                 return looks;
             }
-            if (!tray.learn(place, kind, number)) {
+            if (!tray.learn(place, kind, tray.numberInTruth(place, kind))) {
                 return refuse(FULL);
             }
         }
@@ -687,19 +686,19 @@ public final class TheOneWithout {
             return i >= 0 && i < signs.length ? signs[i] / (KINDS * NUMBERS) : NONE;
         }
 
-        boolean knows(int place, int kind, int number) {
-            int sign = signFor(place, kind, number);
+        /** Whether a sign is known of a place, whatever its number has become since. */
+        boolean knows(int place, int kind) {
             for (int i = 0; i < signCount && i < signs.length; i++) {
-                if (signs[i] == sign) {
+                if (signs[i] / NUMBERS == place * KINDS + kind) {
                     return true;
                 }
             }
             return false;
         }
 
-        /** Knows the sign from now on; false if there is no room for it. */
+        /** Knows the sign from now on, unless it is known already; false if there is no room. */
         boolean learn(int place, int kind, int number) {
-            if (knows(place, kind, number)) {
+            if (knows(place, kind)) {
                 return true;
             }
             if (signCount < 0 || signCount >= signs.length) {

@@ -20,7 +20,8 @@ final class PlainModel {
         int[][] looks = new int[6][3];
         int[] wants = {-1, -1, -1, -1, -1, -1};
         int[] minds = new int[6];
-        List<List<Integer>> signs = new ArrayList<>();
+        /** Numbers by 10 times the place and the kind: at six places there are but 24. */
+        Map<Integer, Integer> signs = new HashMap<>();
         List<int[]> tellers = new ArrayList<>();
 
         State twin() {
@@ -35,13 +36,17 @@ final class PlainModel {
             }
             t.wants = wants.clone();
             t.minds = minds.clone();
-            t.signs = new ArrayList<>(signs);
+            t.signs = new HashMap<>(signs);
             t.tellers = new ArrayList<>(tellers);
             return t;
         }
 
         int number(int kind, int sort) {
             return kind == 3 ? sort : looks[sort][kind];
+        }
+
+        void learn(int place, int kind, int v) {
+            signs.putIfAbsent(10 * place + kind, v);
         }
     }
 
@@ -277,12 +282,7 @@ final class PlainModel {
         if (with == 0) {
             return no(-5);
         }
-        if (!st.signs.contains(List.of(place, kind, v))) {
-            if (st.signs.size() == 24) {
-                return no(-6);
-            }
-            st.signs.add(List.of(place, kind, v));
-        }
+        st.learn(place, kind, v);
         return with;
     }
 
@@ -410,12 +410,7 @@ final class PlainModel {
             if (having(p, k, v) == 0) {
                 throw new Fault(starts.get(nextToken - 1));
             }
-            if (!st.signs.contains(List.of(p, k, v))) {
-                if (st.signs.size() == 24) {
-                    throw new Fault(starts.get(word));
-                }
-                st.signs.add(List.of(p, k, v));
-            }
+            st.learn(p, k, v);
         } else {
             throw new Fault(starts.get(word));
         }
@@ -475,8 +470,9 @@ final class PlainModel {
         List<int[]> found = new ArrayList<>();
         for (int[] w : all()) {
             boolean has = true;
-            for (List<Integer> g : st.signs) {
-                has &= st.number(g.get(1), w[g.get(0)]) == g.get(2);
+            for (Map.Entry<Integer, Integer> g : st.signs.entrySet()) {
+                int placeAndKind = g.getKey();
+                has &= st.number(placeAndKind % 10, w[placeAndKind / 10]) == g.getValue();
             }
             if (has) {
                 found.add(w);
@@ -905,12 +901,7 @@ final class PlainModel {
             return no(-2);
         }
         int v = st.number(kind, st.truth[place]);
-        if (!st.signs.contains(List.of(place, kind, v))) {
-            if (st.signs.size() == 24) {
-                return no(-6);
-            }
-            st.signs.add(List.of(place, kind, v));
-        }
+        st.learn(place, kind, v);
         return v;
     }
 
@@ -924,14 +915,10 @@ final class PlainModel {
             if (said == NONE) {
                 break;
             }
-            int v = st.number(said % 10, st.truth[said / 10]);
-            if (st.signs.contains(List.of(said / 10, said % 10, v))) {
+            if (st.signs.containsKey(said)) {
                 break;
             }
-            if (st.signs.size() == 24) {
-                return no(-6);
-            }
-            st.signs.add(List.of(said / 10, said % 10, v));
+            st.learn(said / 10, said % 10, st.number(said % 10, st.truth[said / 10]));
             looks++;
         }
         return looks;

@@ -160,6 +160,10 @@ public final class StairTest {
         DUE.is("an end", Due.stair(x, "sign 2 0"), -28);
         DUE.is("one that some world has", Due.stair(x, "sign 2 0 9"), 1);
         DUE.is("worlds(1)", x.worlds(1), 2);
+        DUE.is("known with another number", Due.stair(x, "sign 2 0 9;sign 2 0 0"), -40);
+        x.sort(1, 0, 8);
+        DUE.is("known with the number it had", Due.stair(x, "sign 2 0 9"), -29);
+        DUE.is("status(3)", x.status(3), 1);
     }
 
     private static void allOrNothing() {

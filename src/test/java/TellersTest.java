@@ -149,23 +149,24 @@ public final class TellersTest {
         DUE.refused(x, "tries(-1)", x.tries(-1), -2, 2);
     }
 
-    /** A sign is its number, too: another number of the same place and kind is not known yet. */
+    /** A sign is its place and kind: what its number is in truth does not matter. */
     private static void triesOfWhatIsKnown() {
         TheOneWithout x = with(0, 0, "cups 4;law 2;pour 0 1 2 3;sort 1 5 0 0;sort 2 5 0 0;"
                 + "sign 0 0 5");
         DUE.is("tells(0)", x.tells(0), 0);
-        DUE.is("the truth is another", x.tries(0), 1);
-        DUE.is("status(3)", x.status(3), 2);
-        DUE.is("worlds(1)", x.worlds(1), 0);
+        DUE.is("known, though the truth is another", x.tries(0), 0);
+        DUE.is("status(3)", x.status(3), 1);
+        DUE.is("worlds(1)", x.worlds(1), 12);
         x = with(0, 0, "cups 4;law 2;pour 1 0 2 3;sort 1 5 0 0;sort 2 5 0 0;sign 0 0 5");
         DUE.is("it is known", x.tries(0), 0);
         DUE.is("status(3)", x.status(3), 1);
+        x = with(0, 1, "cups 4;law 2;pour 1 0 2 3;sort 1 5 0 0;sort 2 5 0 0;sign 0 0 5;"
+                + "sign 1 1 0");
+        DUE.is("another kind, another place are not", x.tries(0), 1);
+        DUE.is("status(3)", x.status(3), 3);
     }
 
-    /**
-     * 24 signs that some world has are all that can be known of six cups, so that a try has
-     * always room; what a look without room answers stands in TruthTest.
-     */
+    /** At six places there are but 24 signs, so a try has always room. */
     private static void triesWithManySigns() {
         TheOneWithout x = with(2, 0, "cups 6;law 2;pour 0 1 2 3 4 5");
         for (int place = 0; place < 6; place++) {

@@ -244,9 +244,11 @@ public final class TrayTest {
         DUE.refused(x, "no sort 3 was poured", x.sign(0, 3, 3), -5, 2);
         DUE.is("sign(0, 3, 1)", x.sign(0, 3, 1), 2);
         DUE.refused(x, "not there too", x.sign(1, 3, 1), -5, 3);
+        DUE.refused(x, "known with another number", x.sign(0, 3, 2), -5, 4);
         DUE.is("status(3)", x.status(3), 1);
+        DUE.is("the number stays", x.world(0, 0), 1);
         x.law(0);
-        DUE.refused(x, "known, but none has it now", x.sign(0, 3, 1), -5, 4);
+        DUE.refused(x, "known, but none has it now", x.sign(0, 3, 1), -5, 5);
         DUE.is("status(3)", x.status(3), 1);
     }
 

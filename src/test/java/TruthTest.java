@@ -5,8 +5,9 @@ public final class TruthTest {
     public static void main(String[] args) {
         turned();
         look();
+        lookAtWhatWasToldOtherwise();
         lookRefused();
-        lookWithoutRoom();
+        lookHasRoom();
         stairs();
         drawsOfSeeds();
         truth();
@@ -47,8 +48,22 @@ public final class TruthTest {
         DUE.is("look(0, 0)", x.look(0, 0), 7);
         DUE.is("known already", x.status(3), 4);
         x.sort(4, 0, 6);
-        DUE.is("another number", x.look(0, 0), 6);
-        DUE.is("is known besides", x.status(3), 5);
+        DUE.is("another number since", x.look(0, 0), 6);
+        DUE.is("the sign is known all the same", x.status(3), 4);
+        DUE.is("with the number it had", x.worlds(1), 0);
+        x.sort(4, 0, 7);
+        DUE.is("that comes back", x.worlds(1), 1);
+    }
+
+    private static void lookAtWhatWasToldOtherwise() {
+        TheOneWithout x = Due.tray("cups 3;law 2;pour 0 1 2;sign 0 3 1");
+        DUE.is("in truth", x.look(0, 3), 0);
+        DUE.is("known already", x.status(3), 1);
+        DUE.is("as it was told", x.world(0, 0), 1);
+        DUE.is("worlds(1)", x.worlds(1), 2);
+        DUE.is("another kind there", x.look(0, 0), 0);
+        DUE.is("the same kind elsewhere", x.look(1, 3), 1);
+        DUE.is("are unlike signs", x.status(3), 3);
         DUE.is("no world has both", x.worlds(1), 0);
     }
 
@@ -61,22 +76,26 @@ public final class TruthTest {
         DUE.is("status(3)", x.status(3), 0);
     }
 
-    private static void lookWithoutRoom() {
-        TheOneWithout x = Due.tray("cups 2;law 2;pour 1 2");
-        for (int v = 0; v < 24; v++) {
-            x.sort(1, v / 10, v % 10);
-            DUE.is("look " + v, x.look(0, v / 10), v % 10);
+    /** At six places there are but 24 signs, so there is always room for the next. */
+    private static void lookHasRoom() {
+        TheOneWithout x = Due.tray("cups 6;law 2;pour 0 1 2 3 4 5");
+        for (int v = 0; v < 10; v++) {
+            for (int sort = 0; sort < 6; sort++) {
+                for (int what = 0; what < 3; what++) {
+                    x.sort(sort, what, (v + sort + what) % 10);
+                }
+            }
+            for (int i = 0; i < 24; i++) {
+                int due = i % 4 == 3 ? i / 4 : (v + i / 4 + i % 4) % 10;
+                DUE.is("look " + i, x.look(i / 4, i % 4), due);
+                DUE.is("signs", x.status(3), v == 0 ? i + 1 : 24);
+            }
         }
-        DUE.is("24 signs", x.status(3), 24);
-        DUE.is("one that is known", x.look(0, 0), 9);
-        DUE.refused(x, "another place", x.look(1, 0), -6, 1);
-        DUE.refused(x, "another kind", x.look(0, 3), -6, 2);
-        DUE.refused(x, "BAD is ahead of FULL", x.look(2, 0), -2, 1);
-        x.sort(1, 2, 4);
-        DUE.refused(x, "another number", x.look(0, 2), -6, 3);
-        DUE.is("24 signs", x.status(3), 24);
+        DUE.refused(x, "BAD", x.look(6, 0), -2, 1);
+        DUE.is("never FULL", x.status(16), 0);
         DUE.is("forget()", x.forget(), 24);
-        DUE.is("room again", x.look(0, 2), 4);
+        DUE.is("look(0, 2)", x.look(0, 2), 1);
+        DUE.is("status(3)", x.status(3), 1);
     }
 
     private static void stairs() {
