@@ -15,6 +15,9 @@ public final class HandingTest {
         best();
         bestByRows();
         mind();
+        lastGuests();
+        lastPlaces();
+        guestsAsManyAsCups();
         noneIsPossible();
         DUE.end();
     }
@@ -191,6 +194,109 @@ public final class HandingTest {
         DUE.refused(x, "mind(-1, 0)", x.mind(-1, 0), -2, 2);
         DUE.refused(x, "mind(0, 4)", x.mind(0, 4), -2, 3);
         DUE.refused(x, "mind(0, -1)", x.mind(0, -1), -2, 4);
+    }
+
+    /** Of each tray the last guest alone wants a sort, which stands at the first place. */
+    private static void lastGuests() {
+        for (int n = 2; n <= 6; n++) {
+            TheOneWithout x = new TheOneWithout();
+            x.cups(n);
+            x.law(0);
+            Due.row(x, 0, 0, 5, 0, 0, 0, 0, 0);
+            x.pour(0);
+            int last = n - 1;
+            x.guest(last, 5, 9);
+            Due.row(x, 1, 0, 0, 1, 2, 3, 4, 5);
+            String of = " of " + n;
+            DUE.promise(30);
+            DUE.is("judge" + of, x.judge(1), -1);
+            DUE.promise(31);
+            DUE.is("MEAN" + of, x.handing(1, 0), 9);
+            DUE.is("SWAPS" + of, x.handing(1, 1), 1);
+            DUE.is("COST" + of, x.handing(1, 2), 9);
+            x.set(1, 0, last);
+            x.set(1, last, 0);
+            DUE.is("MEAN" + of, x.handing(1, 0), 0);
+            DUE.is("SWAPS" + of, x.handing(1, 1), 0);
+            DUE.is("COST" + of, x.handing(1, 2), 0);
+            DUE.promise(32);
+            DUE.is("best(NONE)" + of, x.best(-1), 0);
+            DUE.is("the last guest's place" + of, x.best(last), 0);
+            for (int guest = 0; guest < last; guest++) {
+                DUE.is("the others' places" + of, x.best(guest), guest + 1);
+            }
+            DUE.promise(33);
+            DUE.is("mind" + of, x.mind(last, 0), 0);
+            DUE.is("mind" + of, x.mind(last, last), 1);
+            DUE.promise(30);
+            x.set(1, last, last);
+            DUE.is("the last is one ahead" + of, x.judge(1), last);
+            x.set(1, last, n);
+            DUE.is("the last is no place" + of, x.judge(1), last);
+        }
+    }
+
+    /** Of each tray what each guest wants stands at the last place alone. */
+    private static void lastPlaces() {
+        for (int n = 2; n <= 6; n++) {
+            TheOneWithout x = new TheOneWithout();
+            x.cups(n);
+            x.law(0);
+            Due.row(x, 0, 0, 1, 1, 1, 1, 1, 1);
+            x.set(0, n - 1, 5);
+            x.pour(0);
+            for (int guest = 0; guest < n; guest++) {
+                x.guest(guest, 5, guest == 1 ? 9 : 8);
+            }
+            Due.row(x, 1, 0, 0, 1, 2, 3, 4, 5);
+            String of = " of " + n;
+            DUE.promise(31);
+            int all = 8 * n + 1;
+            DUE.is("MEAN" + of, x.handing(1, 0), n == 2 ? 8 : all - 8);
+            DUE.is("COST" + of, x.handing(1, 2), n == 2 ? 8 : all - 8);
+            DUE.is("SWAPS" + of, x.handing(1, 1), -1);
+            DUE.promise(32);
+            DUE.is("best(NONE)" + of, x.best(-1), all - 9);
+            DUE.is("who minds most gets the last" + of, x.best(1), n - 1);
+            DUE.is("the first gets the first" + of, x.best(0), 0);
+            DUE.promise(33);
+            for (int place = 0; place < n; place++) {
+                DUE.is("mind(0, " + place + ")" + of, x.mind(0, place), place == n - 1 ? 0 : 1);
+            }
+        }
+    }
+
+    /** A guest there is no place for any more counts nowhere. */
+    private static void guestsAsManyAsCups() {
+        for (int n = 2; n <= 5; n++) {
+            TheOneWithout x = new TheOneWithout();
+            x.cups(6);
+            for (int guest = n; guest < 6; guest++) {
+                x.guest(guest, 5, 9);
+            }
+            TheOneWithout twin = new TheOneWithout();
+            for (TheOneWithout each : new TheOneWithout[] {x, twin}) {
+                each.cups(n);
+                each.law(2);
+                Due.row(each, 0, 0, 0, 1, 2, 3, 4, 5);
+                each.pour(0);
+                for (int guest = 0; guest < n; guest++) {
+                    each.guest(guest, guest, 1);
+                    each.set(0, guest, n - 1 - guest);
+                }
+                each.teller(5, 0);
+            }
+            DUE.promise(31);
+            DUE.is("COST of " + n, x.handing(0, 2), n / 2 * 2);
+            DUE.is("SWAPS of " + n, x.handing(0, 1), n / 2);
+            DUE.is("MEAN of " + n, x.handing(0, 0), twin.handing(0, 0));
+            DUE.promise(34);
+            DUE.is("a hander of " + n, x.tells(0), 3);
+            DUE.promise(32);
+            DUE.refused(x, "best(" + n + ")", x.best(n), -2, 1);
+            twin.best(n);
+            DUE.isLikeTwin("guests of " + n, x, twin, 0);
+        }
     }
 
     private static void noneIsPossible() {

@@ -10,6 +10,8 @@ public final class KeepingTest {
         whatIsNotKept();
         shelvesWithTellers();
         backRefused();
+        eachChangeIsUndone();
+        whatStays();
         status();
         DUE.end();
     }
@@ -129,6 +131,88 @@ public final class KeepingTest {
         DUE.is("show(1, 1)", x.show(1, 1), -2);
         DUE.is("the next teller", x.teller(5, 8), 1);
         DUE.is("comes to no shelf by itself", x.holds(1), -1);
+    }
+
+    /** Behind image, one change and back all is as behind image alone, with 2 to 6 cups. */
+    private static void eachChangeIsUndone() {
+        for (int n = 2; n <= 6; n++) {
+            int last = n - 1;
+            undone(n, "cups", x -> x.cups(last == 1 ? 6 : last));
+            undone(n, "cups, as many", x -> x.cups(last + 1));
+            undone(n, "pour", x -> x.pour(Scenes.WORLD));
+            undone(n, "law", x -> x.law(0));
+            for (int sort = 0; sort < 6; sort++) {
+                for (int what = 0; what < 3; what++) {
+                    int s = sort;
+                    int w = what;
+                    undone(n, "sort " + s + " " + w, x -> x.sort(s, w, 8));
+                }
+            }
+            for (int guest = 0; guest < n; guest++) {
+                int g = guest;
+                undone(n, "WANTS of " + g, x -> x.guest(g, 5, 3 + g));
+                undone(n, "MINDS of " + g, x -> x.guest(g, g == 1 ? -1 : (g + 1) % 4, 9 - g));
+            }
+            undone(n, "teller", x -> x.teller(4, 4));
+            undone(n, "sign", x -> x.sign(last, 2, 5));
+            undone(n, "forget", x -> x.forget());
+            undone(n, "look", x -> x.look(last, 3));
+            undone(n, "tries", x -> x.tries(0));
+            undone(n, "stairs", x -> x.stairs());
+            undone(n, "truth", x -> x.truth(Scenes.WORLD));
+            undone(n, "seed", x -> x.seed(77));
+            undone(n, "image and back", x -> x.image() + x.back());
+        }
+    }
+
+    private static void undone(int n, String word, Due.Call change) {
+        DUE.promise(44);
+        TheOneWithout twin = Scenes.full(n);
+        twin.image();
+        TheOneWithout x = Scenes.full(n);
+        x.image();
+        change.on(x);
+        DUE.is("back() behind " + word + " of " + n, x.back(), 1);
+        DUE.isLikeTwin("back() behind " + word + " of " + n, x, twin, 0);
+        // changed first, so that the image has it
+        DUE.promise(43);
+        twin = Scenes.full(n);
+        change.on(twin);
+        x = Scenes.full(n);
+        change.on(x);
+        DUE.is("image() behind " + word + " of " + n, x.image(), 1);
+        DUE.is("back() to " + word + " of " + n, x.back(), 1);
+        twin.image();
+        DUE.isLikeTwin("back() to " + word + " of " + n, x, twin, 0);
+    }
+
+    /** THE TAPE, SHELVES with ROWS and REFUSALS are not kept. */
+    private static void whatStays() {
+        DUE.promise(44);
+        stays("feed", x -> x.feed('1'));
+        stays("wipe", x -> x.wipe());
+        stays("row", x -> x.row(Scenes.LONG, 2, 7));
+        stays("row over a TELLER", x -> x.row(Scenes.HANDER, 2, 7));
+        stays("set", x -> x.set(Scenes.SHORT, 0, 7));
+        stays("copy", x -> x.copy(Scenes.HANDING, Scenes.HANDING, 0, 1, 2));
+        stays("show", x -> x.show(Scenes.EMPTY, 2));
+        stays("show of another", x -> x.show(Scenes.HANDER, 0));
+        stays("show NONE", x -> x.show(Scenes.HANDER, -1));
+        stays("a refusal, BAD", x -> x.cups(0));
+        stays("a refusal, OTHER", x -> x.set(Scenes.HANDER, 0, 0));
+        stays("a refusal, NOTHING", x -> x.set(Scenes.EMPTY, 0, 0));
+        stays("a refusal, STUCK", x -> x.handing(Scenes.WRONG, 0));
+    }
+
+    private static void stays(String word, Due.Call change) {
+        TheOneWithout x = Scenes.full();
+        x.image();
+        change.on(x);
+        x.back();
+        TheOneWithout twin = Scenes.full();
+        change.on(twin);
+        twin.image();
+        DUE.isLikeTwin("back() behind " + word, x, twin, 0);
     }
 
     private static void backRefused() {

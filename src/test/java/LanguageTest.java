@@ -146,25 +146,6 @@ public final class LanguageTest extends TreeScanner<Void, Void> {
         return null;
     }
 
-    /** Objects are made with the object alone, so that no call takes room. */
-    @Override
-    public Void visitNewClass(NewClassTree tree, Void none) {
-        madeWithin();
-        return super.visitNewClass(tree, none);
-    }
-
-    @Override
-    public Void visitNewArray(NewArrayTree tree, Void none) {
-        madeWithin();
-        return super.visitNewArray(tree, none);
-    }
-
-    private void madeWithin() {
-        if (!inMethod.isEmpty() && !inMethod.equals("<init>")) {
-            no("something made");
-        }
-    }
-
     @Override
     public Void visitBinary(BinaryTree tree, Void none) {
         if (tree.getKind() == Tree.Kind.PLUS

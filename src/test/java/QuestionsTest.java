@@ -10,6 +10,9 @@ public final class QuestionsTest {
         fewestRefused();
         apart();
         marks();
+        oneOddTurned();
+        alikeByEachKind();
+        askedAgain();
         DUE.end();
     }
 
@@ -119,6 +122,101 @@ public final class QuestionsTest {
         x = Due.tray("cups 3;law 2;pour 0 1 2;sign 0 3 1");
         x.law(0);
         DUE.refused(x, "none is possible", x.apart(), -5, 1);
+    }
+
+    /** One of a sort among others of one sort, turned: each sip tells of one place alone. */
+    private static void oneOddTurned() {
+        for (int odd = 0; odd < 6; odd++) {
+            for (int other = 0; other < 6; other++) {
+                if (odd == other) {
+                    continue;
+                }
+                String text = "law 1;pour " + other + " " + other + " " + odd + " " + other + " "
+                        + other;
+                TheOneWithout x = Due.tray(text);
+                DUE.promise(27);
+                DUE.is("fewest(8) of five", x.fewest(8), 4);
+                DUE.is("fewest(7): never", x.fewest(7), -1);
+                DUE.promise(28);
+                DUE.is("apart() of five", x.apart(), 15);
+                DUE.promise(26);
+                DUE.is("next(8): the first of all alike", x.next(8), 3);
+                x.sign(0, 3, other);
+                DUE.promise(27);
+                DUE.is("fewest(8) of four", x.fewest(8), 3);
+                DUE.promise(28);
+                DUE.is("apart() of four", x.apart(), 14);
+                DUE.promise(26);
+                DUE.is("next(8): place 0 is known", x.next(8), 13);
+                x.sort(odd, 1, 9);
+                DUE.is("next(15): WEIGHT tells as much", x.next(15), 11);
+                DUE.promise(27);
+                DUE.is("fewest(2): WEIGHT tells as much", x.fewest(2), 3);
+                DUE.is("fewest(5): never", x.fewest(5), -1);
+                x.sign(3, 3, odd);
+                DUE.is("fewest(1): it is known", x.fewest(1), 0);
+                DUE.promise(28);
+                DUE.is("apart(): it is known", x.apart(), 0);
+            }
+        }
+    }
+
+    /** Of three sorts two are alike by a kind; the numbers are the least and the greatest. */
+    private static void alikeByEachKind() {
+        for (int kind = 0; kind < 3; kind++) {
+            for (int unlike = 3; unlike < 6; unlike++) {
+                TheOneWithout x = Due.tray("cups 3;law 2;pour 3 4 5");
+                x.sort(unlike, kind, 9);
+                DUE.promise(29);
+                DUE.is("MARKS by this kind", x.marks(1 << kind), 2);
+                DUE.is("MARKS by the other looks", x.marks(7 - (1 << kind)), 6);
+                DUE.is("MARKS by all looks", x.marks(7), 2);
+                DUE.is("MARKS by sips", x.marks(8), 1);
+                DUE.promise(25);
+                DUE.is("SPLIT", x.split(2, kind, 0), 2);
+                DUE.is("WORST", x.split(2, kind, 1), 4);
+                DUE.promise(26);
+                DUE.is("NEXT of looks", x.next(7), kind);
+                DUE.promise(27);
+                DUE.is("FEWEST: two are alike", x.fewest(7), -1);
+                x.sort(unlike == 5 ? 4 : 5, kind, 8);
+                DUE.is("FEWEST by this kind", x.fewest(1 << kind), 2);
+                DUE.promise(29);
+                DUE.is("MARKS: all are unlike", x.marks(1 << kind), 1);
+            }
+        }
+    }
+
+    /** What is asked changes nothing: it is answered the same again, in another order too. */
+    private static void askedAgain() {
+        TheOneWithout x = Due.tray("cups 4;law 2;pour 0 1 2 3;sort 1 1 0 0;sort 2 1 1 0;"
+                + "sort 3 0 1 0;sign 3 0 1");
+        int possible = x.worlds(1);
+        int[] fewest = new int[16];
+        int[] marks = new int[16];
+        int[] next = new int[16];
+        int apart = x.apart();
+        for (int i = 1; i <= 15; i++) {
+            fewest[i] = x.fewest(i);
+            marks[i] = x.marks(i);
+            next[i] = x.next(i);
+        }
+        DUE.promise(27);
+        DUE.is("fewest(3): shade and weight tell each sort", fewest[3], 4);
+        DUE.is("fewest(8)", fewest[8], 3);
+        for (int i = 15; i >= 1; i--) {
+            DUE.promise(29);
+            DUE.is("marks(" + i + ") again", x.marks(i), marks[i]);
+            DUE.promise(27);
+            DUE.is("fewest(" + i + ") again", x.fewest(i), fewest[i]);
+            DUE.is("fewest(" + i + ") at once again", x.fewest(i), fewest[i]);
+            DUE.promise(26);
+            DUE.is("next(" + i + ") again", x.next(i), next[i]);
+            DUE.promise(28);
+            DUE.is("apart() again", x.apart(), apart);
+        }
+        DUE.promise(20);
+        DUE.is("worlds(1) again", x.worlds(1), possible);
     }
 
     private static void marks() {

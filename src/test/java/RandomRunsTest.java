@@ -31,6 +31,7 @@ public final class RandomRunsTest {
     }
 
     public static void main(String[] args) throws Exception {
+        Due.watch();
         int runs = args.length > 1 ? Integer.parseInt(args[1]) : RUNS;
         Map<String, Method> ofProgram = callsOf(TheOneWithout.class);
         Map<String, Method> ofModel = callsOf(PlainModel.class);
@@ -64,7 +65,11 @@ public final class RandomRunsTest {
         return found;
     }
 
-    private int call(String name, long... args) throws Exception {
+    /** Behind the last call of a run what is answered is free: nothing is called any more. */
+    private void call(String name, long... args) throws Exception {
+        if (log.size() >= CALLS) {
+            return;
+        }
         Method p = programCalls.get(name);
         Method m = modelCalls.get(name);
         Object[] told = new Object[args.length];
@@ -83,7 +88,6 @@ public final class RandomRunsTest {
             }
             System.out.println("the model answers " + want);
         }
-        return (int) got;
     }
 
     private int below(int n) {
@@ -143,11 +147,11 @@ public final class RandomRunsTest {
     }
 
     private int place() throws Exception {
-        return small(program.status(0));
+        return small(model.status(0));
     }
 
     private void one() throws Exception {
-        int n = program.status(0);
+        int n = model.status(0);
         String[] names = {"row", "set", "copy", "element", "holds", "show", "says", "cups", "pour",
             "law", "sort", "guest", "teller", "sign", "forget", "feed", "wipe", "stair", "worlds",
             "world", "sorts", "likely", "known", "split", "next", "fewest", "apart", "marks",
@@ -220,7 +224,7 @@ public final class RandomRunsTest {
 
     private void readText() throws Exception {
         StringBuilder b = new StringBuilder();
-        int n = program.status(0);
+        int n = model.status(0);
         for (int i = below(4); i >= 0; i--) {
             int which = below(9);
             if (which == 0) {

@@ -209,29 +209,21 @@ public final class StairTest {
     }
 
     private static void fullTape() {
-        TheOneWithout x = new TheOneWithout();
         StringBuilder b = new StringBuilder("law 2");
         while (b.length() < 245) {
             b.append(";law 0");
         }
+        int statements = 1 + (b.length() - 5) / 6;
+        while (b.length() < 250) {
+            b.append(' ');
+        }
+        TheOneWithout x = new TheOneWithout();
         Due.feed(x, b.toString());
-        int rest = 250 - b.length();
-        for (int i = 0; i < rest; i++) {
-            x.feed(32);
-        }
         DUE.is("status(5)", x.status(5), 250);
-        DUE.is("a full tape", x.stair(), 1 + (b.length() - 5) / 6);
-        for (int i = 0; i < 250; i++) {
-            x.feed(32);
-        }
-        DUE.is("a tape of blanks", x.stair(), -270);
-        for (int i = 0; i < 250; i++) {
-            x.feed('z');
-        }
-        DUE.is("a tape of one word", x.stair(), -20);
-        for (int i = 0; i < 250; i++) {
-            x.feed(i < 3 ? "law".charAt(i) : '0');
-        }
-        DUE.is("a number of 247 digits", x.stair(), -23);
+        DUE.is("a full tape", x.stair(), statements);
+        DUE.is("a tape of blanks", Due.stair(x, " ".repeat(250)), -270);
+        x = new TheOneWithout();
+        DUE.is("a tape of one word", Due.stair(x, "z".repeat(250)), -20);
+        DUE.is("a number of 247 digits", Due.stair(x, "law" + "0".repeat(247)), -23);
     }
 }

@@ -9,6 +9,8 @@ public final class TellersTest {
         tellsOfSigner();
         tellsOfSipper();
         tellsOfHander();
+        eachKindAtEachPlace();
+        lastGuestsAndPlaces();
         oneOrNonePossible();
         tellsRefused();
         tries();
@@ -88,6 +90,62 @@ public final class TellersTest {
         DUE.is("of several the first", x.tells(0), 13);
         x = with(5, 1, "cups 3;law 2;pour 0 1 2");
         DUE.is("none minds: the first", x.tells(0), 3);
+    }
+
+    /** All places ahead are known, and one kind of looks alone tells more. */
+    private static void eachKindAtEachPlace() {
+        String[] numbers = {"1 0 0", "0 1 0", "0 0 1"};
+        for (int place = 0; place < 5; place++) {
+            StringBuilder text = new StringBuilder("cups 6;law 2;pour 0 1 2 3 4 5");
+            for (int ahead = 0; ahead < place; ahead++) {
+                text.append(";sign ").append(ahead).append(" 3 ").append(ahead);
+            }
+            DUE.is("a mixer", with(2, 0, text.toString()).tells(0), 10 * place + 3);
+            DUE.is("a sipper of alike looks", with(4, 0, text.toString()).tells(0),
+                    10 * place + 3);
+            DUE.is("a signer of alike looks", with(3, 0, text.toString()).tells(0), 0);
+            DUE.is("a turner of alike looks", with(1, 0, text.toString()).tells(0), -1);
+            for (int kind = 0; kind < 3; kind++) {
+                String told = text + ";sort 5 " + numbers[kind];
+                int due = 10 * place + kind;
+                DUE.is("a teller", with(0, kind + 4, told).tells(0), due);
+                DUE.is("a turner", with(1, 0, told).tells(0), kind == 0 ? due : -1);
+                DUE.is("a signer", with(3, 0, told).tells(0), due);
+                DUE.is("a sipper", with(4, 0, told).tells(0), due);
+            }
+        }
+    }
+
+    /** Who minds most is the last guest; so the first guests get the places that are wrong. */
+    private static void lastGuestsAndPlaces() {
+        for (int n = 3; n <= 6; n++) {
+            TheOneWithout x = new TheOneWithout();
+            x.cups(n);
+            x.law(2);
+            Due.row(x, 0, 0, 0, 1, 2, 3, 4, 5);
+            x.pour(0);
+            x.teller(5, 0);
+            for (int guest = 0; guest < n; guest++) {
+                x.guest(guest, 0, guest + 4);
+            }
+            x.sign(n - 2, 3, 1);
+            DUE.is("the first guest gets what is wrong", x.best(0), n - 2);
+            DUE.is("the last guest gets the last place", x.best(n - 1), n - 1);
+            DUE.is("a hander", x.tells(0), 10 * (n - 1) + 3);
+            x.sign(0, 3, 2);
+            DUE.is("the last guest gets the last place", x.best(n - 1), n - 1);
+            DUE.is("a hander, or all is known", x.tells(0), n > 3 ? 10 * (n - 1) + 3 : -1);
+            x.forget();
+            x.sign(n - 1, 3, 0);
+            DUE.is("the last guest gets what is right", x.best(n - 1), n - 1);
+            DUE.is("that is known: as a mixer", x.tells(0), 3);
+            x.forget();
+            x.sign(n - 1, 3, 1);
+            x.guest(0, -1, 9);
+            x.guest(n - 1, 0, 9);
+            DUE.is("who takes any", x.best(0), n - 1);
+            DUE.is("and minds as much, is the first: known", x.tells(0), 3);
+        }
     }
 
     private static void oneOrNonePossible() {

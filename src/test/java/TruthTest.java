@@ -79,7 +79,7 @@ public final class TruthTest {
     /** At six places there are but 24 signs, so there is always room for the next. */
     private static void lookHasRoom() {
         TheOneWithout x = Due.tray("cups 6;law 2;pour 0 1 2 3 4 5");
-        for (int v = 0; v < 10; v++) {
+        for (int v = 0; v < 6; v++) {
             for (int sort = 0; sort < 6; sort++) {
                 for (int what = 0; what < 3; what++) {
                     x.sort(sort, what, (v + sort + what) % 10);
@@ -94,7 +94,7 @@ public final class TruthTest {
         DUE.refused(x, "BAD", x.look(6, 0), -2, 1);
         DUE.is("never FULL", x.status(16), 0);
         DUE.is("forget()", x.forget(), 24);
-        DUE.is("look(0, 2)", x.look(0, 2), 1);
+        DUE.is("look(0, 2)", x.look(0, 2), 7);
         DUE.is("status(3)", x.status(3), 1);
     }
 

@@ -16,6 +16,9 @@ public final class WorldsTest {
         split();
         odd();
         noneIsPossible();
+        oneIsPossible();
+        signsAtLastPlaces();
+        everySort();
         DUE.end();
     }
 
@@ -181,6 +184,110 @@ public final class WorldsTest {
         DUE.refused(x, "odd(-1)", x.odd(-1), -2, 2);
         DUE.is("none is odd", new TheOneWithout().odd(0), 0);
         DUE.is("each is odd", Due.tray("cups 3;law 1;pour 3 4 5").odd(2), 3);
+    }
+
+    /** The least that is not STUCK. */
+    private static void oneIsPossible() {
+        TheOneWithout x = Due.tray("cups 3;law 2;pour 5 4 0;sign 0 3 4;sign 1 3 0");
+        DUE.promise(20);
+        DUE.is("worlds(1)", x.worlds(1), 1);
+        DUE.promise(21);
+        DUE.is("world(0, 2)", x.world(0, 2), 5);
+        DUE.refused(x, "world(1, 2)", x.world(1, 2), -5, 1);
+        int[] due = {4, 0, 5};
+        for (int place = 0; place < 3; place++) {
+            DUE.promise(22);
+            DUE.is("sorts(" + place + ")", x.sorts(place), 1 << due[place]);
+            DUE.promise(23);
+            DUE.is("LIKELY at " + place, x.likely(place, 0), due[place]);
+            DUE.is("SURE at " + place, x.likely(place, 1), 1000);
+            DUE.promise(25);
+            for (int kind = 0; kind < 4; kind++) {
+                DUE.is("split(" + place + ", " + kind + ", 0)", x.split(place, kind, 0), 1);
+                DUE.is("split(" + place + ", " + kind + ", 1)", x.split(place, kind, 1), 1);
+            }
+            DUE.promise(35);
+            DUE.is("odd(" + place + ")", x.odd(place), 1);
+        }
+        DUE.promise(24);
+        DUE.is("known()", x.known(), 7);
+        DUE.promise(26);
+        DUE.is("next(15): the first of all alike", x.next(15), 0);
+        DUE.is("next(8): the first of all alike", x.next(8), 3);
+        DUE.promise(27);
+        DUE.is("fewest(8): it is known now", x.fewest(8), 0);
+        DUE.promise(28);
+        DUE.is("apart(): no place", x.apart(), 0);
+        DUE.is("but the one is STUCK", x.status(15), 1);
+    }
+
+    /** A sign at each place of each tray, the last ones too, leaves the worlds that have it. */
+    private static void signsAtLastPlaces() {
+        int[] left = {1, 1, 2, 6, 24, 120};
+        for (int n = 2; n <= 6; n++) {
+            for (int place = 0; place < n; place++) {
+                DUE.promise(15);
+                TheOneWithout x = unlike(n);
+                DUE.is("SORT at " + place + " of " + n, x.sign(place, 3, n - 1), left[n - 1]);
+                DUE.promise(22);
+                DUE.is("sorts(" + place + ")", x.sorts(place), 1 << n - 1);
+                DUE.promise(24);
+                DUE.is("known()", x.known(), n == 2 ? 3 : 1 << place);
+                DUE.promise(15);
+                x = unlike(n);
+                DUE.is("SHADE 9 at " + place + " of " + n, x.sign(place, 0, 9),
+                        (n - 1) * left[n - 1]);
+                DUE.promise(37);
+                x = unlike(n);
+                DUE.is("look at " + place, x.look(place, 3), place);
+                DUE.is("POSSIBLE ones", x.worlds(1), left[n - 1]);
+            }
+        }
+    }
+
+    /** Sorts 0 to n less 1 in any order; the last has shade 8, the others 9. */
+    private static TheOneWithout unlike(int n) {
+        TheOneWithout x = new TheOneWithout();
+        x.cups(n);
+        x.law(2);
+        Due.row(x, 0, 0, 0, 1, 2, 3, 4, 5);
+        x.pour(0);
+        for (int sort = 0; sort < n; sort++) {
+            x.sort(sort, 0, sort == n - 1 ? 8 : 9);
+        }
+        return x;
+    }
+
+    /** Of each sort, the first and the last too: two of it and two others. */
+    private static void everySort() {
+        for (int sort = 0; sort < 6; sort++) {
+            int other = (sort + 1) % 6;
+            int third = (sort + 2) % 6;
+            TheOneWithout x = Due.tray("cups 4;law 2;pour " + sort + " " + other + " " + sort + " "
+                    + third + ";sign 0 3 " + other);
+            int both = 1 << sort | 1 << third;
+            DUE.promise(22);
+            DUE.is("sorts(0)", x.sorts(0), 1 << other);
+            DUE.is("sorts(3)", x.sorts(3), both);
+            DUE.promise(23);
+            DUE.is("LIKELY at 3, most are " + sort, x.likely(3, 0), sort);
+            DUE.is("SURE at 3", x.likely(3, 1), 666);
+            DUE.promise(25);
+            DUE.is("split(3, SORT, 0)", x.split(3, 3, 0), 2);
+            DUE.is("split(3, SORT, 1)", x.split(3, 3, 1), 2);
+            DUE.promise(35);
+            DUE.is("odd(0), all have " + other + " once", x.odd(0), 3);
+            DUE.is("odd(3), " + third + " alone", x.odd(3), 1);
+            DUE.promise(45);
+            DUE.is("unlike SORTS POURED", x.status(4), 3);
+        }
+        DUE.promise(23);
+        for (int sort = 0; sort < 5; sort++) {
+            TheOneWithout x = Due.tray("cups 2;law 2;pour 5 " + sort);
+            DUE.is("LIKELY: of several the least", x.likely(0, 0), sort);
+            DUE.is("LIKELY: of several the least", x.likely(1, 0), sort);
+            DUE.is("SURE: half", x.likely(1, 1), 500);
+        }
     }
 
     private static void noneIsPossible() {
