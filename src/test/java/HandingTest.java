@@ -274,6 +274,9 @@ public final class HandingTest {
             for (int guest = n; guest < 6; guest++) {
                 x.guest(guest, 5, 9);
             }
+            DUE.promise(32);
+            DUE.is("best of six", x.best(-1), 9 * (6 - n));
+            DUE.is("best(5) of six", x.best(5), 5);
             TheOneWithout twin = new TheOneWithout();
             for (TheOneWithout each : new TheOneWithout[] {x, twin}) {
                 each.cups(n);
@@ -281,17 +284,17 @@ public final class HandingTest {
                 Due.row(each, 0, 0, 0, 1, 2, 3, 4, 5);
                 each.pour(0);
                 for (int guest = 0; guest < n; guest++) {
-                    each.guest(guest, guest, 1);
+                    each.guest(guest, guest, guest == n - 1 ? 2 : 1);
                     each.set(0, guest, n - 1 - guest);
                 }
                 each.teller(5, 0);
             }
             DUE.promise(31);
-            DUE.is("COST of " + n, x.handing(0, 2), n / 2 * 2);
+            DUE.is("COST of " + n, x.handing(0, 2), n / 2 * 2 + 1);
             DUE.is("SWAPS of " + n, x.handing(0, 1), n / 2);
             DUE.is("MEAN of " + n, x.handing(0, 0), twin.handing(0, 0));
             DUE.promise(34);
-            DUE.is("a hander of " + n, x.tells(0), 3);
+            DUE.is("a hander of " + n, x.tells(0), 10 * (n - 1) + 3);
             DUE.promise(32);
             DUE.refused(x, "best(" + n + ")", x.best(n), -2, 1);
             twin.best(n);
