@@ -44,6 +44,7 @@ public final class HandingTest {
     }
 
     private static void judgeRefused() {
+        DUE.promise(30);
         TheOneWithout x = Due.tray("cups 3");
         x.teller(0, 0);
         x.show(1, 0);
@@ -74,6 +75,7 @@ public final class HandingTest {
     }
 
     private static void costInTruth() {
+        DUE.promise(31);
         TheOneWithout x = Due.tray(GUESTS);
         Due.row(x, 0, 0, 0, 1, 2);
         Due.row(x, 1, 1, 1, 2, 0, 9);
@@ -87,6 +89,7 @@ public final class HandingTest {
     }
 
     private static void swaps() {
+        DUE.promise(31);
         TheOneWithout x = Due.tray("cups 4;law 2;pour 0 1 2 3;guest 0 0 0;guest 1 1 0;"
                 + "guest 2 2 0;guest 3 3 0");
         long[][] cases = {
@@ -108,6 +111,7 @@ public final class HandingTest {
     }
 
     private static void swapsOfGuestsWhoTakeAny() {
+        DUE.promise(31);
         TheOneWithout x = Due.tray("cups 5;law 2;pour 0 1 2 3 4;guest 0 1 0;guest 1 2 0");
         Due.row(x, 0, 0, 0, 1, 2, 3, 4);
         DUE.is("two swaps at least", x.handing(0, 1), 2);
@@ -125,6 +129,7 @@ public final class HandingTest {
     }
 
     private static void handingRefused() {
+        DUE.promise(31);
         TheOneWithout x = Due.tray("cups 3");
         x.teller(0, 0);
         x.show(1, 0);
@@ -168,6 +173,7 @@ public final class HandingTest {
     }
 
     private static void bestByRows() {
+        DUE.promise(32);
         TheOneWithout x = Due.tray("cups 3;law 0;pour 0 1 1;guest 0 1 1;guest 1 1 1;guest 2 1 1");
         DUE.is("best(NONE)", x.best(-1), 1);
         for (int guest = 0; guest < 3; guest++) {

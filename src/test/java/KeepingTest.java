@@ -112,6 +112,7 @@ public final class KeepingTest {
     }
 
     private static void shelvesWithTellers() {
+        DUE.promise(44);
         TheOneWithout x = new TheOneWithout();
         x.teller(1, 3);
         x.show(0, 0);
@@ -216,6 +217,7 @@ public final class KeepingTest {
     }
 
     private static void backRefused() {
+        DUE.promise(44);
         TheOneWithout x = new TheOneWithout();
         x.cups(3);
         DUE.refused(x, "back()", x.back(), -5, 1);

@@ -10,6 +10,9 @@ public final class QuestionsTest {
         fewestRefused();
         apart();
         marks();
+        onePlaceTells();
+        oneKindTells();
+        apartOfTwelve();
         oneOddTurned();
         alikeByEachKind();
         askedAgain();
@@ -44,6 +47,7 @@ public final class QuestionsTest {
     }
 
     private static void nextRefused() {
+        DUE.promise(26);
         TheOneWithout x = Due.tray("cups 3;law 2;pour 0 1 2;sign 0 3 1");
         DUE.refused(x, "next(0)", x.next(0), -2, 1);
         DUE.refused(x, "next(16)", x.next(16), -2, 2);
@@ -78,6 +82,7 @@ public final class QuestionsTest {
 
     /** Two looks are enough only if the second hangs on what the first has shown. */
     private static void fewestAhead() {
+        DUE.promise(27);
         TheOneWithout x = Due.tray("cups 4;law 1;pour 0 1 2 3;sort 2 1 0 0;sort 3 1 0 0");
         DUE.is("by shades", x.fewest(1), 2);
         x = Due.tray("cups 6;law 1;pour 0 1 2 3 4 5;sort 1 0 0 1;sort 2 0 1 0;sort 3 1 1 1;"
@@ -87,6 +92,7 @@ public final class QuestionsTest {
     }
 
     private static void fewestRefused() {
+        DUE.promise(27);
         TheOneWithout x = Due.tray("cups 3;law 2;pour 0 1 2;sign 0 3 1");
         DUE.refused(x, "fewest(0)", x.fewest(0), -2, 1);
         DUE.refused(x, "fewest(16)", x.fewest(16), -2, 2);
@@ -122,6 +128,64 @@ public final class QuestionsTest {
         x = Due.tray("cups 3;law 2;pour 0 1 2;sign 0 3 1");
         x.law(0);
         DUE.refused(x, "none is possible", x.apart(), -5, 1);
+    }
+
+    /** 0 or 1 stands at one place, 1 or 2 at another: what stands at the third alone tells all. */
+    private static void onePlaceTells() {
+        int[][] places = {{0, 1, 2}, {0, 2, 1}, {1, 0, 2}, {1, 2, 0}, {2, 0, 1}, {2, 1, 0}};
+        for (int[] p : places) {
+            TheOneWithout x = Due.tray("cups 3;law 2;pour 0 1 2;sort 2 1 0 0;sort 0 0 1 0;sign "
+                    + p[1] + " 0 0;sign " + p[2] + " 1 0");
+            DUE.promise(20);
+            DUE.is("worlds(1)", x.worlds(1), 3);
+            DUE.promise(27);
+            DUE.is("fewest(8) by place " + p[0], x.fewest(8), 1);
+            DUE.is("fewest(15) by place " + p[0], x.fewest(15), 1);
+            DUE.is("fewest(7) by looks", x.fewest(7), 2);
+            DUE.is("fewest(4) by HEAT", x.fewest(4), -1);
+            DUE.promise(28);
+            DUE.is("apart() by place " + p[0], x.apart(), 1 << p[0]);
+            DUE.promise(26);
+            DUE.is("next(8) at place " + p[0], x.next(8), 10 * p[0] + 3);
+            x.sort(1, 2, 2);
+            x.sort(2, 2, 9);
+            DUE.is("next(4) at place " + p[0], x.next(4), 10 * p[0] + 2);
+            DUE.promise(27);
+            DUE.is("fewest(4) by HEAT at place " + p[0], x.fewest(4), 1);
+            DUE.is("fewest(3) by SHADE and WEIGHT", x.fewest(3), 2);
+        }
+    }
+
+    /** Two sorts at three places, of which the first or the last ones are known. */
+    private static void oneKindTells() {
+        for (int place = 0; place < 3; place++) {
+            for (int kind = 0; kind < 3; kind++) {
+                TheOneWithout x = Due.tray("cups 3;law 2;pour 4 5 3;sign " + place + " 3 3");
+                x.sort(5, kind, 9);
+                int first = place == 0 ? 10 : 0;
+                int bits = 1 << kind;
+                DUE.promise(26);
+                DUE.is("next of this kind", x.next(bits), first + kind);
+                DUE.is("next of all", x.next(15), first + kind);
+                DUE.is("next of the other kinds", x.next(15 - bits), first + 3);
+                DUE.promise(27);
+                DUE.is("fewest of this kind", x.fewest(bits), 1);
+                DUE.is("fewest of all", x.fewest(15), 1);
+                DUE.is("fewest of the other looks", x.fewest(7 - bits), -1);
+                DUE.promise(28);
+                DUE.is("apart", x.apart(), place == 0 ? 2 : 1);
+            }
+        }
+    }
+
+    /** Seven looks leave 12 of 720; no two places tell them, and of three these are the least. */
+    private static void apartOfTwelve() {
+        DUE.promise(28);
+        TheOneWithout x = Due.tray("cups 6;law 2;pour 0 1 2 3 4 5;sort 0 1 0 0;sort 1 0 1 1;"
+                + "sort 2 1 1 0;sort 3 0 1 0;sort 4 0 0 1;sort 5 0 0 0;sign 3 2 0;sign 1 1 0;"
+                + "sign 4 0 0;sign 5 0 0;sign 3 1 1;sign 2 1 0;sign 0 0 1");
+        DUE.is("worlds(1)", x.worlds(1), 12);
+        DUE.is("apart", x.apart(), 22);
     }
 
     /** One of a sort among others of one sort, turned: each sip tells of one place alone. */

@@ -104,6 +104,8 @@ public final class RandomRunsTest {
                 lay(style);
             } else if (below(20) == 0) {
                 readText();
+            } else if (style == 3 && below(6) == 0) {
+                partlyKnown();
             } else {
                 one();
             }
@@ -139,6 +141,36 @@ public final class RandomRunsTest {
         }
         for (int i = below(4); i > 0; i--) {
             call("look", below(n), below(4));
+        }
+    }
+
+    /** Signs that some sorts share leave worlds of which each place tells something else. */
+    private void partlyKnown() throws Exception {
+        int n = 3 + below(4);
+        call("cups", n);
+        call("law", 2);
+        int shelf = below(8);
+        call("row", shelf, 0, n);
+        for (int p = 0; p < n; p++) {
+            call("set", shelf, p, p == n - 1 ? below(6) : p);
+        }
+        call("pour", shelf);
+        for (int s = 0; s < 6; s++) {
+            for (int k = 0; k < 3; k++) {
+                call("sort", s, k, below(2));
+            }
+        }
+        for (int i = n - 1 + below(n); i > 0; i--) {
+            call("look", below(n), below(3));
+        }
+        call("apart");
+        for (int i = 0; i < 6; i++) {
+            call("fewest", 1 + below(15));
+            call("next", 1 + below(15));
+        }
+        for (int p = 0; p < n; p++) {
+            call("sorts", p);
+            call("split", p, 3, 1);
         }
     }
 

@@ -116,6 +116,7 @@ public final class RefusalsTest {
     }
 
     private static void copiesInOrder() {
+        DUE.promise(4);
         full("copy: BAD p ahead of OTHER", x -> x.copy(8, 6, 0, 0, 1), BAD);
         full("copy: BAD q ahead of OTHER", x -> x.copy(6, 8, 0, 0, 1), BAD);
         full("copy: BAD p ahead of NOTHING", x -> x.copy(-1, 5, 0, 0, 1), BAD);
@@ -367,6 +368,7 @@ public final class RefusalsTest {
     }
 
     private static void unlikeCounts() {
+        DUE.promise(45);
         TheOneWithout x = Scenes.fullOfTellers();
         x.teller(0, 0);
         int[] due = {1, 2, 3, 4, 1};

@@ -59,6 +59,7 @@ public final class ShelvesTest {
     }
 
     private static void sortsOfElements() {
+        DUE.promise(3);
         long[][] cases = {
             {0, 127, 127}, {0, 128, -128}, {0, 256, 0}, {0, -129, 127},
             {1, 32767, 32767}, {1, 32768, -32768}, {1, 65536, 0},
@@ -97,6 +98,7 @@ public final class ShelvesTest {
     }
 
     private static void copiesRefused() {
+        DUE.promise(4);
         TheOneWithout x = new TheOneWithout();
         Due.row(x, 0, 1, 1, 2, 3, 4, 5);
         Due.row(x, 1, 1, 0, 0, 0);
@@ -199,6 +201,7 @@ public final class ShelvesTest {
     }
 
     private static void saysRefused() {
+        DUE.promise(8);
         TheOneWithout x = new TheOneWithout();
         x.teller(1, 3);
         x.show(0, 0);

@@ -80,6 +80,7 @@ public final class StairTest {
 
     /** What a statement may say is as the ones ahead left it. */
     private static void readInOrder() {
+        DUE.promise(19);
         TheOneWithout x = new TheOneWithout();
         DUE.is("two cups, two sorts", Due.stair(x, "cups 2;pour 0 1;guest 1 0 0;sign 1 3 1"), 4);
         DUE.is("worlds(1)", x.worlds(1), 1);
@@ -91,6 +92,7 @@ public final class StairTest {
     }
 
     private static void tokens() {
+        DUE.promise(19);
         TheOneWithout x = new TheOneWithout();
         DUE.is("blanks anywhere", Due.stair(x, "  cups   2  ;  law 1 "), 2);
         DUE.is("no blanks", Due.stair(x, "cups2;law1;pour 0 01"), 3);
@@ -117,6 +119,7 @@ public final class StairTest {
     }
 
     private static void faults() {
+        DUE.promise(19);
         TheOneWithout x = new TheOneWithout();
         DUE.is("empty", x.stair(), -20);
         DUE.is("refused, too", x.status(12), 1);
@@ -148,6 +151,7 @@ public final class StairTest {
     }
 
     private static void faultsOfSigns() {
+        DUE.promise(19);
         TheOneWithout x = Due.tray("cups 3;pour 0 1 2;law 2;sort 1 9 0 0");
         DUE.is("place 3", Due.stair(x, "sign 3 0 0"), -25);
         DUE.is("kind 4", Due.stair(x, "sign 2 4 0"), -27);
@@ -167,6 +171,7 @@ public final class StairTest {
     }
 
     private static void allOrNothing() {
+        DUE.promise(19);
         TheOneWithout x = Due.tray("cups 3;pour 0 1 2;sort 1 9 8 7;guest 0 1 9;sign 0 3 2");
         x.teller(0, 3);
         x.row(0, 0, 3);
@@ -197,6 +202,7 @@ public final class StairTest {
     }
 
     private static void whatStairsKeep() {
+        DUE.promise(19);
         TheOneWithout x = Due.tray("cups 2;pour 0 1;law 2");
         x.seed(77);
         x.stairs();
@@ -209,6 +215,7 @@ public final class StairTest {
     }
 
     private static void fullTape() {
+        DUE.promise(19);
         StringBuilder b = new StringBuilder("law 2");
         while (b.length() < 245) {
             b.append(";law 0");

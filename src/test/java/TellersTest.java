@@ -37,6 +37,7 @@ public final class TellersTest {
     }
 
     private static void tellsOfTurner() {
+        DUE.promise(34);
         TheOneWithout x = with(1, 3, "cups 4;law 2;pour 0 1 2 0");
         DUE.is("all shades alike", x.tells(0), -1);
         Due.stair(x, "sort 1 1 0 0;sort 2 2 0 0");
@@ -49,6 +50,7 @@ public final class TellersTest {
     }
 
     private static void tellsOfMixer() {
+        DUE.promise(34);
         TheOneWithout x = with(2, 1, "cups 3;law 2;pour 0 1 2");
         DUE.is("the first", x.tells(0), 3);
         Due.stair(x, "sign 0 3 1");
@@ -58,6 +60,7 @@ public final class TellersTest {
     }
 
     private static void tellsOfSigner() {
+        DUE.promise(34);
         TheOneWithout x = with(3, 1, "cups 3;law 2;pour 0 1 2;sort 1 0 0 7;sort 2 0 0 8");
         DUE.is("HEAT, and no sip", x.tells(0), 2);
         Due.stair(x, "sign 0 2 0");
@@ -66,6 +69,7 @@ public final class TellersTest {
     }
 
     private static void tellsOfSipper() {
+        DUE.promise(34);
         TheOneWithout x = with(4, 1, "cups 3;law 2;pour 0 1 2;sort 2 0 5 0");
         DUE.is("as a signer", x.tells(0), 1);
         Due.stair(x, "sign 0 1 5");
@@ -78,6 +82,7 @@ public final class TellersTest {
     }
 
     private static void tellsOfHander() {
+        DUE.promise(34);
         String guests = "cups 3;law 2;pour 0 1 1;guest 0 1 2;guest 1 1 2;guest 2 0 9";
         TheOneWithout x = with(5, 1, guests);
         DUE.is("who minds most gets place 2", x.tells(0), 23);
@@ -94,6 +99,7 @@ public final class TellersTest {
 
     /** All places ahead are known, and one kind of looks alone tells more. */
     private static void eachKindAtEachPlace() {
+        DUE.promise(34);
         String[] numbers = {"1 0 0", "0 1 0", "0 0 1"};
         for (int place = 0; place < 5; place++) {
             StringBuilder text = new StringBuilder("cups 6;law 2;pour 0 1 2 3 4 5");
@@ -118,6 +124,7 @@ public final class TellersTest {
 
     /** Who minds most is the last guest; so the first guests get the places that are wrong. */
     private static void lastGuestsAndPlaces() {
+        DUE.promise(34);
         for (int n = 3; n <= 6; n++) {
             TheOneWithout x = new TheOneWithout();
             x.cups(n);
@@ -149,6 +156,7 @@ public final class TellersTest {
     }
 
     private static void oneOrNonePossible() {
+        DUE.promise(34);
         for (int kind = 0; kind < 6; kind++) {
             TheOneWithout x = with(kind, 1, "cups 3;law 2;pour 0 1 2;sort 1 1 2 3;sort 2 2 3 4;"
                     + "sign 0 3 1;sign 1 3 0");
@@ -160,6 +168,7 @@ public final class TellersTest {
     }
 
     private static void tellsRefused() {
+        DUE.promise(34);
         TheOneWithout x = new TheOneWithout();
         DUE.refused(x, "tells(0)", x.tells(0), -2, 1);
         x.teller(0, 0);
@@ -192,6 +201,7 @@ public final class TellersTest {
     }
 
     private static void triesThatEnd() {
+        DUE.promise(38);
         TheOneWithout x = with(0, 4, "cups 3;law 2;pour 0 1 2");
         DUE.is("a teller looks but once at what tells nothing", x.tries(0), 1);
         DUE.is("status(3)", x.status(3), 1);
@@ -209,6 +219,7 @@ public final class TellersTest {
 
     /** A sign is its place and kind: what its number is in truth does not matter. */
     private static void triesOfWhatIsKnown() {
+        DUE.promise(38);
         TheOneWithout x = with(0, 0, "cups 4;law 2;pour 0 1 2 3;sort 1 5 0 0;sort 2 5 0 0;"
                 + "sign 0 0 5");
         DUE.is("tells(0)", x.tells(0), 0);
@@ -226,6 +237,7 @@ public final class TellersTest {
 
     /** At six places there are but 24 signs, so a try has always room. */
     private static void triesWithManySigns() {
+        DUE.promise(38);
         TheOneWithout x = with(2, 0, "cups 6;law 2;pour 0 1 2 3 4 5");
         for (int place = 0; place < 6; place++) {
             for (int kind = 0; kind < 3; kind++) {

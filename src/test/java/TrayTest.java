@@ -99,6 +99,7 @@ public final class TrayTest {
     }
 
     private static void pourRefused() {
+        DUE.promise(10);
         TheOneWithout x = Due.tray("cups 3; pour 1 2 3; sign 0 3 1");
         x.teller(0, 0);
         x.show(0, 0);
@@ -186,6 +187,7 @@ public final class TrayTest {
     }
 
     private static void guestsStayWithCups() {
+        DUE.promise(13);
         TheOneWithout x = new TheOneWithout();
         x.guest(4, 1, 7);
         x.cups(2);
@@ -231,6 +233,7 @@ public final class TrayTest {
     }
 
     private static void signRefused() {
+        DUE.promise(15);
         TheOneWithout x = Due.tray("cups 3; pour 0 1 2; law 2");
         DUE.refused(x, "sign(3, 0, 0)", x.sign(3, 0, 0), -2, 1);
         DUE.refused(x, "sign(-1, 0, 0)", x.sign(-1, 0, 0), -2, 2);

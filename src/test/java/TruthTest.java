@@ -56,6 +56,7 @@ public final class TruthTest {
     }
 
     private static void lookAtWhatWasToldOtherwise() {
+        DUE.promise(37);
         TheOneWithout x = Due.tray("cups 3;law 2;pour 0 1 2;sign 0 3 1");
         DUE.is("in truth", x.look(0, 3), 0);
         DUE.is("known already", x.status(3), 1);
@@ -68,6 +69,7 @@ public final class TruthTest {
     }
 
     private static void lookRefused() {
+        DUE.promise(37);
         TheOneWithout x = Due.tray("cups 3");
         DUE.refused(x, "look(3, 0)", x.look(3, 0), -2, 1);
         DUE.refused(x, "look(-1, 0)", x.look(-1, 0), -2, 2);
@@ -78,6 +80,7 @@ public final class TruthTest {
 
     /** At six places there are but 24 signs, so there is always room for the next. */
     private static void lookHasRoom() {
+        DUE.promise(37);
         TheOneWithout x = Due.tray("cups 6;law 2;pour 0 1 2 3 4 5");
         for (int v = 0; v < 6; v++) {
             for (int sort = 0; sort < 6; sort++) {
@@ -125,6 +128,7 @@ public final class TruthTest {
     }
 
     private static void drawsOfSeeds() {
+        DUE.promise(39);
         TheOneWithout x = Due.tray("cups 5;law 1;pour 0 1 2 3 4");
         // 1 becomes 1103527590: above are 16838, modulo 5 that is 3
         x.stairs();
@@ -160,6 +164,7 @@ public final class TruthTest {
     }
 
     private static void truthRefused() {
+        DUE.promise(40);
         TheOneWithout x = Due.tray("cups 3;law 2;pour 0 1 2;sign 0 3 0");
         x.teller(0, 0);
         x.show(1, 0);

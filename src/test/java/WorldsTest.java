@@ -73,6 +73,7 @@ public final class WorldsTest {
     }
 
     private static void orderOfTurned() {
+        DUE.promise(21);
         rowsAre(Due.tray("cups 4;law 1;pour 2 0 1 0"), new int[] {102, 201, 1020, 2010});
         rowsAre(Due.tray("cups 4;law 1;pour 3 1 3 1"), new int[] {1313, 3131});
         rowsAre(Due.tray("cups 3;law 1;pour 0 1 2"), new int[] {12, 120, 201});
@@ -80,6 +81,7 @@ public final class WorldsTest {
     }
 
     private static void worldRefused() {
+        DUE.promise(21);
         TheOneWithout x = Due.tray(MIXED);
         DUE.is("world(11, 3)", x.world(11, 3), 0);
         DUE.refused(x, "not so many", x.world(12, 0), -5, 1);
@@ -119,6 +121,7 @@ public final class WorldsTest {
     }
 
     private static void likelyRefused() {
+        DUE.promise(23);
         TheOneWithout x = Due.tray("cups 3;law 2;pour 0 1 2;sign 0 3 1");
         DUE.refused(x, "likely(3, 0)", x.likely(3, 0), -2, 1);
         DUE.refused(x, "likely(-1, 0)", x.likely(-1, 0), -2, 2);

@@ -148,6 +148,7 @@ public final class WrapsTest {
 
     /** Below as many as there are worlds: 1 to 6 turned, 1 to 720 mixed. */
     private static void draws() {
+        DUE.promise(39);
         String[] trays = {"cups 2;law 1;pour 0 1", "cups 3;law 1;pour 0 1 2",
             "cups 4;law 1;pour 0 1 2 3", "cups 5;law 1;pour 0 1 2 3 4",
             "cups 6;law 1;pour 0 1 2 3 4 5", "cups 6;law 2;pour 0 1 2 3 4 5",
