@@ -1359,11 +1359,17 @@ public final class TheOneWithout {
                 return;
             }
             for (int place = 0; place < tray.cups; place++) {
-                if ((used >> place & 1) == 0 && suits(guest, place)) {
-                    takes[guest] = place;
-                    tryPlaces(guest + 1, used | 1 << place);
-                }
+                tryPlace(guest, place, used);
             }
+        }
+
+        private void tryPlace(int guest, int place, int used) {
+            if (guest < 0 || guest >= takes.length || (used >> place & 1) == 1
+                    || !suits(guest, place)) {
+                return;
+            }
+            takes[guest] = place;
+            tryPlaces(guest + 1, used | 1 << place);
         }
 
         /** Guests who pass their places round among them: each such round saves one swap. */

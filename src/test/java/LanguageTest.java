@@ -33,6 +33,7 @@ public final class LanguageTest extends TreeScanner<Void, Void> {
     private CompilationUnitTree unit;
     private String inClass = "";
     private String inMethod = "";
+    private boolean isStatic = false;
     private int classes = 0;
     private int wrong = 0;
 
@@ -140,6 +141,7 @@ public final class LanguageTest extends TreeScanner<Void, Void> {
         if (tree.toString().split("\n").length > 60) {
             no("a long method");
         }
+        isStatic = flags.contains(Modifier.STATIC);
         calls.put(inClass + "." + inMethod, new HashSet<>());
         super.visitMethod(tree, none);
         inMethod = "";
@@ -174,6 +176,9 @@ public final class LanguageTest extends TreeScanner<Void, Void> {
             owner = owner.equals("Kept") || owner.equals("Ahead") ? "Tray" : owner;
             noteCall(owner + "." + name);
         } else {
+            if (!isStatic && called.toString().equals(inMethod)) {
+                no("a method that calls itself and isn't static");
+            }
             noteCall(inClass + "." + called);
         }
         return super.visitMethodInvocation(tree, none);
